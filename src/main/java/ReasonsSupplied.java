@@ -24,6 +24,7 @@ public final class ReasonsSupplied {
     private static final int MISSING_SHEET = 3;
     private static final int LAW_SLIP = -10000;
     private static final int LAW_DAYS = 10;
+    private static final int MOST_TURNS = 1000;
 
     private final Signs text = new Signs();
     private final Numbers told = new Numbers();
@@ -364,7 +365,7 @@ public final class ReasonsSupplied {
             return NONE;
         }
         then.copy(now);
-        then.passBoth(one, other, n, files.presentRule());
+        then.passAll(n, files.presentRule());
         int sum = 0;
         told.start();
         for (int h = 0; h < HUMOURS; h++) {
@@ -465,14 +466,22 @@ public final class ReasonsSupplied {
     }
 
     public int fits(int person) {
-        return files.hasPerson(person) ? outlook.tellFitting(person) : NONE;
+        if (!files.hasPerson(person)) {
+            return NONE;
+        }
+        int fitting = outlook.fitting(person);
+        told.start();
+        told.add(Integer.bitCount(fitting));
+        told.add(outlook.fitsBare(person) ? 1 : 0);
+        return fitting;
     }
 
     public int looks(int person, int n) {
         if (!files.hasPerson(person) || !within(n, 0, 30)) {
             return NONE;
         }
-        return outlook.bestLook(person, n);
+        int fitting = outlook.fitting(person);
+        return fitting == 0 ? WITHOUT : outlook.bestLook(person, n, fitting);
     }
 
     // ---- covers, shares
@@ -482,7 +491,10 @@ public final class ReasonsSupplied {
     }
 
     public int shares(int n) {
-        return within(n, 0, 20) ? outlook.shareOut(n) : NONE;
+        if (!within(n, 0, 20)) {
+            return NONE;
+        }
+        return outlook.reckonGains(n) + outlook.shareOut();
     }
 
     // ---- the counter, envelopes
@@ -511,7 +523,7 @@ public final class ReasonsSupplied {
         int greater = Math.max(a, b);
         int lesser = Math.min(a, b);
         boolean mine = true;
-        while (lesser > 0 && greater < 2 * lesser) {
+        for (int i = 0; i < MOST_TURNS && lesser > 0 && greater < 2 * lesser; i++) {
             int rest = greater - lesser;
             greater = lesser;
             lesser = rest;
@@ -577,7 +589,7 @@ public final class ReasonsSupplied {
     private void tellFraction(long upper, long lower) {
         long common = lower;
         long rest = upper;
-        while (rest > 0) {
+        for (int i = 0; i < MOST_TURNS && rest > 0; i++) {
             long next = common % rest;
             common = rest;
             rest = next;
@@ -637,7 +649,7 @@ public final class ReasonsSupplied {
 
     private int wantsHadBy(Rule rule) {
         then.copy(now);
-        then.spend(LAW_DAYS, rule);
+        then.passAll(LAW_DAYS, rule);
         return then.wantsOfAll();
     }
 
@@ -651,7 +663,7 @@ public final class ReasonsSupplied {
             r = drawn(r);
             int what = lot(r, 4);
             if (what < 2) {
-                then.spend(1, files.presentRule());
+                then.passAll(1, files.presentRule());
             } else if (files.personSize() > 0 && files.groundSize() > 0) {
                 int first = drawn(r);
                 r = drawn(first);
@@ -735,7 +747,10 @@ public final class ReasonsSupplied {
     }
 
     private static int clamp(int n, int low, int high) {
-        return Math.max(low, Math.min(high, n));
+        if (n < low) {
+            return low;
+        }
+        return n > high ? high : n;
     }
 
     private static boolean isDigit(int sign) {
@@ -852,14 +867,12 @@ public final class ReasonsSupplied {
             this.dashesFrom = dashesFrom;
         }
 
-        @Override
         void begin(int room) {
             this.room = room;
             lines = 0;
             column = 0;
         }
 
-        @Override
         boolean takes(int sign) {
             if (column == width) {
                 column = 0;
@@ -873,7 +886,6 @@ public final class ReasonsSupplied {
             return isDigit(sign) || column > dashesFrom && sign == '-';
         }
 
-        @Override
         boolean mayEnd() {
             return column == width;
         }
@@ -894,7 +906,6 @@ public final class ReasonsSupplied {
             super(59);
         }
 
-        @Override
         void begin(int room) {
             this.room = room;
             lines = 0;
@@ -902,7 +913,6 @@ public final class ReasonsSupplied {
             part = 0;
         }
 
-        @Override
         boolean takes(int sign) {
             if (part == 0) {
                 return takesFirst(sign);
@@ -926,7 +936,6 @@ public final class ReasonsSupplied {
             return lines <= room && terms <= MOST_TERMS && within(sign, 'a', 'd');
         }
 
-        @Override
         boolean mayEnd() {
             return part == 0 && terms > 0;
         }
@@ -945,13 +954,11 @@ public final class ReasonsSupplied {
             super(60);
         }
 
-        @Override
         void begin(int room) {
             digitsLeft = 0;
             making = false;
         }
 
-        @Override
         boolean takes(int sign) {
             if (digitsLeft == 0) {
                 making = sign == 'm';
@@ -969,7 +976,6 @@ public final class ReasonsSupplied {
             return sign == 'g' || sign == 't' || sign == 'm' ? 2 : 0;
         }
 
-        @Override
         boolean mayEnd() {
             return digitsLeft == 0;
         }
@@ -991,7 +997,8 @@ public final class ReasonsSupplied {
         private static final int MOST_OPEN = 4;
         private static final int MOST_DIGITS = 3;
         private static final int LETTER = 1000;
-        private static final int NEGATE = '~';
+        /** No sign of a text is as great, so none can be taken for it. */
+        private static final int NEGATE = 256;
         private static final int FARTHEST_PUSH = 99;
 
         /** A number as it is, LETTER and more for a letter, less than 0 for what is done. */
@@ -1022,7 +1029,6 @@ public final class ReasonsSupplied {
             return slip;
         }
 
-        @Override
         void begin(int room) {
             size = 0;
             waits = 0;
@@ -1032,7 +1038,6 @@ public final class ReasonsSupplied {
             thingNext = true;
         }
 
-        @Override
         boolean takes(int sign) {
             if (thingNext) {
                 return takesThing(sign);
@@ -1140,7 +1145,6 @@ public final class ReasonsSupplied {
             }
         }
 
-        @Override
         boolean mayEnd() {
             return !thingNext && open == 0;
         }
@@ -1155,31 +1159,18 @@ public final class ReasonsSupplied {
             int top = 0;
             for (int i = 0; i < size; i++) {
                 int what = steps[i];
-                if (what < 0) {
-                    top = done(-what, top);
-                } else if (top < MOST) {
+                if (what >= 0 && top < MOST) {
                     int letter = what - LETTER;
-                    values[top] = within(letter, 0, FACTS - 1) ? facts[letter] : what;
+                    values[top] = letter >= 0 && letter < FACTS ? facts[letter] : what;
                     top++;
+                } else if (what == -NEGATE && top > 0) {
+                    values[top - 1] = -values[top - 1];
+                } else if (top > 1) {
+                    top--;
+                    values[top - 1] = outcome(-what, values[top - 1], values[top]);
                 }
             }
-            return top == 1 ? clamp(values[0], -FARTHEST_PUSH, FARTHEST_PUSH) : 0;
-        }
-
-        /** How many values there are when it is done with the last one or two. */
-        private int done(int what, int top) {
-            if (top < 1) {
-                return top;
-            }
-            if (what == NEGATE) {
-                values[top - 1] = -values[top - 1];
-                return top;
-            }
-            if (top < 2) {
-                return top;
-            }
-            values[top - 2] = outcome(what, values[top - 2], values[top - 1]);
-            return top - 1;
+            return clamp(values[0], -FARTHEST_PUSH, FARTHEST_PUSH);
         }
 
         private static int outcome(int what, int a, int b) {
@@ -1232,15 +1223,15 @@ public final class ReasonsSupplied {
         }
 
         boolean hasGround(int g) {
-            return within(g, 0, groundSize - 1);
+            return g >= 0 && g < groundSize;
         }
 
         boolean hasPerson(int p) {
-            return within(p, 0, personSize - 1);
+            return p >= 0 && p < personSize;
         }
 
         boolean hasWant(int w) {
-            return within(w, 0, wantSize - 1);
+            return w >= 0 && w < wantSize;
         }
 
         int allWants() {
@@ -1308,7 +1299,7 @@ public final class ReasonsSupplied {
         }
 
         int pullOf(int g, int h) {
-            return hasGround(g) && within(h, 0, HUMOURS - 1) ? pull[g * HUMOURS + h] : NO_PULL;
+            return hasGround(g) && h >= 0 && h < HUMOURS ? pull[g * HUMOURS + h] : NO_PULL;
         }
 
         int strengthOf(int p) {
@@ -1320,17 +1311,17 @@ public final class ReasonsSupplied {
         }
 
         int humourOfTerm(int w, int t) {
-            return hasWant(w) && within(t, 0, MOST_TERMS - 1) ? termHumours[w * MOST_TERMS + t] : 0;
+            return hasWant(w) && t >= 0 && t < MOST_TERMS ? termHumours[w * MOST_TERMS + t] : 0;
         }
 
         /** How much a HUMOUR is off a TERM: 0, if that is so. */
         int offBy(int w, int t, int humour) {
-            if (!hasWant(w) || !within(t, 0, MOST_TERMS - 1)) {
+            if (!hasWant(w) || t < 0 || t >= MOST_TERMS) {
                 return 0;
             }
             int place = w * MOST_TERMS + t;
-            int past = humour - termNumbers[place];
-            return Math.max(0, termSenses[place] == '<' ? past + 1 : 1 - past);
+            int above = humour - termNumbers[place];
+            return Math.max(0, termSenses[place] == '<' ? above + 1 : 1 - above);
         }
 
         boolean areAtOdds(int one, int another, int k) {
@@ -1370,21 +1361,23 @@ public final class ReasonsSupplied {
 
     /** How all stands on some day, in one row of cells, so that it is copied at once. */
     static final class Standing {
-        static final int SIZE = 82;
-
         private static final int HUMOURS_AT = MOST_GROUNDS;
         private static final int HELD_AT = HUMOURS_AT + MOST_PEOPLE * HUMOURS;
         private static final int DAY_AT = HELD_AT + MOST_PEOPLE * MOST_GROUNDS;
         private static final int SIGNED_AT = DAY_AT + 1;
+        static final int SIZE = SIGNED_AT + 1;
         private static final int NOT_HELD = -1;
 
         private final Files files;
         private final int[] cells = new int[SIZE];
         private final int[] facts = new int[Rule.FACTS];
+        private final int[] more = new int[HUMOURS];
 
         Standing(Files files) {
             this.files = files;
-            Arrays.fill(cells, HELD_AT, DAY_AT, NOT_HELD);
+            for (int i = HELD_AT; i < DAY_AT; i++) {
+                cells[i] = NOT_HELD;
+            }
         }
 
         void copy(Standing from) {
@@ -1404,41 +1397,35 @@ public final class ReasonsSupplied {
         }
 
         int stockOf(int g) {
-            return within(g, 0, MOST_GROUNDS - 1) ? cells[g] : 0;
+            return g >= 0 && g < MOST_GROUNDS ? cells[g] : 0;
         }
 
         void putStock(int g, int stock) {
-            if (within(g, 0, MOST_GROUNDS - 1)) {
+            if (g >= 0 && g < MOST_GROUNDS) {
                 cells[g] = stock;
             }
         }
 
         int humourOf(int p, int h) {
-            return isHumour(p, h) ? cells[HUMOURS_AT + p * HUMOURS + h] : 0;
+            boolean known = p >= 0 && p < MOST_PEOPLE && h >= 0 && h < HUMOURS;
+            return known ? cells[HUMOURS_AT + p * HUMOURS + h] : 0;
         }
 
         void putHumour(int p, int h, int humour) {
-            if (isHumour(p, h)) {
+            if (p >= 0 && p < MOST_PEOPLE && h >= 0 && h < HUMOURS) {
                 cells[HUMOURS_AT + p * HUMOURS + h] = humour;
             }
         }
 
-        private static boolean isHumour(int p, int h) {
-            return within(p, 0, MOST_PEOPLE - 1) && within(h, 0, HUMOURS - 1);
-        }
-
         int daysHeld(int p, int g) {
-            return isHolding(p, g) ? cells[HELD_AT + p * MOST_GROUNDS + g] : NOT_HELD;
+            boolean known = p >= 0 && p < MOST_PEOPLE && g >= 0 && g < MOST_GROUNDS;
+            return known ? cells[HELD_AT + p * MOST_GROUNDS + g] : NOT_HELD;
         }
 
         private void putDaysHeld(int p, int g, int held) {
-            if (isHolding(p, g)) {
+            if (p >= 0 && p < MOST_PEOPLE && g >= 0 && g < MOST_GROUNDS) {
                 cells[HELD_AT + p * MOST_GROUNDS + g] = held;
             }
-        }
-
-        private static boolean isHolding(int p, int g) {
-            return within(p, 0, MOST_PEOPLE - 1) && within(g, 0, MOST_GROUNDS - 1);
         }
 
         boolean holds(int p, int g) {
@@ -1465,7 +1452,7 @@ public final class ReasonsSupplied {
         int groundsOf(int p) {
             int bits = 0;
             for (int g = 0; g < files.groundSize(); g++) {
-                bits |= holds(p, g) ? 1 << g : 0;
+                bits |= daysHeld(p, g) != NOT_HELD ? 1 << g : 0;
             }
             return bits;
         }
@@ -1575,16 +1562,30 @@ public final class ReasonsSupplied {
 
         /** DAYS of all PEOPLE: how often one came to have a WANT. */
         int spend(int n, Rule rule) {
+            int first = cells[DAY_AT];
             int came = 0;
-            for (int i = 0; i < n; i++) {
-                for (int p = 0; p < files.personSize(); p++) {
-                    int before = wantsOf(p);
+            for (int p = 0; p < files.personSize(); p++) {
+                cells[DAY_AT] = first;
+                int had = wantsOf(p);
+                for (int i = 0; i < n; i++) {
                     live(p, rule);
-                    came += Integer.bitCount(wantsOf(p) & ~before);
+                    cells[DAY_AT]++;
+                    int has = wantsOf(p);
+                    came += Integer.bitCount(has & ~had);
+                    had = has;
                 }
-                cells[DAY_AT]++;
             }
+            cells[DAY_AT] = first + n;
             return came;
+        }
+
+        void passAll(int n, Rule rule) {
+            int first = cells[DAY_AT];
+            for (int p = 0; p < files.personSize(); p++) {
+                cells[DAY_AT] = first;
+                pass(p, n, rule);
+            }
+            cells[DAY_AT] = first + n;
         }
 
         /** DAYS as one of PEOPLE alone has them: nobody's HUMOURS hang on another's. */
@@ -1595,15 +1596,6 @@ public final class ReasonsSupplied {
             }
         }
 
-        void passBoth(int p, int q, int n, Rule rule) {
-            for (int i = 0; i < n; i++) {
-                live(p, rule);
-                live(q, rule);
-                cells[DAY_AT]++;
-            }
-        }
-
-        /** A DAY of one of PEOPLE; a HUMOUR is pushed by itself alone, so each may go on at once. */
         private void live(int p, Rule rule) {
             int bits = groundsOf(p);
             if (bits == 0) {
@@ -1612,22 +1604,27 @@ public final class ReasonsSupplied {
             facts[Rule.E] = Integer.bitCount(bits);
             facts[Rule.S] = files.strengthOf(p);
             facts[Rule.N] = cells[DAY_AT] % 7;
-            for (int h = 0; h < HUMOURS; h++) {
-                facts[Rule.V] = humourOf(p, h);
-                int more = 0;
-                for (int g = 0; g < files.groundSize(); g++) {
-                    if (isIn(g, bits) && files.pullOf(g, h) != Files.NO_PULL) {
-                        facts[Rule.T] = files.pullOf(g, h);
-                        facts[Rule.G] = files.gradeOf(g);
-                        facts[Rule.D] = daysHeld(p, g);
-                        more += rule.push(facts);
-                    }
-                }
-                putHumour(p, h, clamp(humourOf(p, h) + more, 0, TOP_HUMOUR));
-            }
+            Arrays.fill(more, 0);
             for (int g = 0; g < files.groundSize(); g++) {
                 if (isIn(g, bits)) {
+                    pushBy(p, g, rule);
                     putDaysHeld(p, g, Math.min(MOST_DAYS_HELD, daysHeld(p, g) + 1));
+                }
+            }
+            for (int h = 0; h < HUMOURS; h++) {
+                putHumour(p, h, clamp(humourOf(p, h) + more[h], 0, TOP_HUMOUR));
+            }
+        }
+
+        private void pushBy(int p, int g, Rule rule) {
+            facts[Rule.G] = files.gradeOf(g);
+            facts[Rule.D] = daysHeld(p, g);
+            for (int h = 0; h < HUMOURS; h++) {
+                int to = files.pullOf(g, h);
+                if (to != Files.NO_PULL) {
+                    facts[Rule.T] = to;
+                    facts[Rule.V] = humourOf(p, h);
+                    more[h] += rule.push(facts);
                 }
             }
         }
@@ -1713,10 +1710,6 @@ public final class ReasonsSupplied {
             this.told = told;
         }
 
-        private void pass(int p, int n) {
-            then.pass(p, n, files.presentRule());
-        }
-
         /** WANTS (bits) of one of PEOPLE in n DAYS, with some GROUNDS more. */
         private int wantsWith(int p, int more, int n) {
             then.copy(now);
@@ -1725,14 +1718,14 @@ public final class ReasonsSupplied {
                     then.lend(p, g);
                 }
             }
-            pass(p, n);
+            then.pass(p, n, files.presentRule());
             return then.wantsOf(p);
         }
 
         private int wantsBare(int p, int less, int n) {
             then.copy(now);
             then.strip(p, less);
-            pass(p, n);
+            then.pass(p, n, files.presentRule());
             return then.wantsOf(p);
         }
 
@@ -1755,30 +1748,24 @@ public final class ReasonsSupplied {
 
         int fewestFor(int p, int want, int n) {
             int free = free(p);
-            for (int many = 0; many <= Integer.bitCount(free); many++) {
-                int some = cheapest(p, want, n, many, free);
-                if (some >= 0) {
-                    told.start();
-                    told.add(some);
-                    told.add(gradesOf(some));
-                    return many;
-                }
+            int found = WITHOUT;
+            for (int some = 0; some <= free; some++) {
+                boolean tried = (some & ~free) == 0 && isLess(some, found);
+                found = tried && isIn(want, wantsWith(p, some, n)) ? some : found;
             }
-            return WITHOUT;
+            if (found < 0) {
+                return WITHOUT;
+            }
+            told.start();
+            told.add(found);
+            told.add(gradesOf(found));
+            return Integer.bitCount(found);
         }
 
-        /** So many GROUNDS that bring a WANT, of least GRADE, then least bits; less than 0: none do. */
-        private int cheapest(int p, int want, int n, int many, int free) {
-            int found = WITHOUT;
-            int least = Integer.MAX_VALUE;
-            for (int some = 0; some <= free; some++) {
-                boolean tried = (some & ~free) == 0 && Integer.bitCount(some) == many && gradesOf(some) < least;
-                if (tried && isIn(want, wantsWith(p, some, n))) {
-                    found = some;
-                    least = gradesOf(some);
-                }
-            }
-            return found;
+        /** Of as many and of as little GRADE the one found first stays: it has the least bits. */
+        private boolean isLess(int some, int found) {
+            int more = found < 0 ? -1 : Integer.bitCount(some) - Integer.bitCount(found);
+            return more < 0 || more == 0 && gradesOf(some) < gradesOf(found);
         }
 
         int bestServing(int p, int n) {
@@ -1854,12 +1841,12 @@ public final class ReasonsSupplied {
                         return false;
                     }
                 }
-                pass(p, 1);
+                then.pass(p, 1, files.presentRule());
             }
             return true;
         }
 
-        private int fitting(int p) {
+        int fitting(int p) {
             int bits = 0;
             for (int g = 0; g < files.groundSize(); g++) {
                 if (!now.holds(p, g)) {
@@ -1871,20 +1858,13 @@ public final class ReasonsSupplied {
             return bits;
         }
 
-        int tellFitting(int p) {
-            int bits = fitting(p);
+        boolean fitsBare(int p) {
             then.copy(now);
-            told.start();
-            told.add(Integer.bitCount(bits));
-            told.add(wouldFit(p) ? 1 : 0);
-            return bits;
+            return wouldFit(p);
         }
 
-        int bestLook(int p, int n) {
-            int bits = fitting(p);
-            if (bits == 0) {
-                return WITHOUT;
-            }
+        /** The HUMOUR by which the fewest of some GROUNDS are left at most. */
+        int bestLook(int p, int n, int bits) {
             Arrays.fill(tally, 0);
             for (int g = 0; g < files.groundSize(); g++) {
                 if (isIn(g, bits)) {
@@ -1943,34 +1923,35 @@ public final class ReasonsSupplied {
             return bits;
         }
 
-        int shareOut(int n) {
-            int without = 0;
+        /** How many WANTS more each GROUND brings (one that brings none is as none); told is how many there are without. */
+        int reckonGains(int n) {
+            int all = 0;
             for (int p = 0; p < files.personSize(); p++) {
-                without += reckonGains(p, n);
+                int free = free(p);
+                int without = Integer.bitCount(wantsWith(p, 0, n));
+                for (int g = 0; g < files.groundSize(); g++) {
+                    int with = isIn(g, free) ? Integer.bitCount(wantsWith(p, 1 << g, n)) : 0;
+                    gains[p * MOST_GROUNDS + g] = Math.max(0, with - without);
+                }
+                all += without;
             }
-            for (int g = 0; g < MOST_GROUNDS; g++) {
+            return all;
+        }
+
+        /** The most WANTS that are gained in all; THE ROW tells by which GROUNDS. */
+        int shareOut() {
+            for (int g = 0; g < files.groundSize(); g++) {
                 left[g] = now.stockOf(g);
             }
-            int more = mostGained(0);
+            int most = mostGained(0);
+            int rest = most;
             told.start();
-            int rest = more;
             for (int p = 0; p < files.personSize(); p++) {
                 int given = leastGiven(p, rest);
                 rest -= given < 0 ? 0 : gains[p * MOST_GROUNDS + given];
                 told.add(given);
             }
-            return without + more;
-        }
-
-        /** How many WANTS more one of PEOPLE has by each GROUND (one that brings none is as none), from how many. */
-        private int reckonGains(int p, int n) {
-            int free = free(p);
-            int without = Integer.bitCount(wantsWith(p, 0, n));
-            for (int g = 0; g < MOST_GROUNDS; g++) {
-                int with = isIn(g, free) ? Integer.bitCount(wantsWith(p, 1 << g, n)) : 0;
-                gains[p * MOST_GROUNDS + g] = Math.max(0, with - without);
-            }
-            return without;
+            return most;
         }
 
         /** The first of none, GROUND 0, 1 .. by which the rest can still be gained; it is taken from what is left. */
@@ -2008,9 +1989,11 @@ public final class ReasonsSupplied {
 
         private void sumGains(int g, int from, int sets) {
             sums[0] = 0;
-            for (int set = 1; set < sets; set++) {
-                int p = from + Integer.numberOfTrailingZeros(set);
-                sums[set] = sums[set & (set - 1)] + gains[p * MOST_GROUNDS + g];
+            for (int p = from; p < files.personSize(); p++) {
+                int one = 1 << p - from;
+                for (int set = one; set < 2 * one && set < sets; set++) {
+                    sums[set] = sums[set - one] + gains[p * MOST_GROUNDS + g];
+                }
             }
         }
 
