@@ -12,6 +12,7 @@ public final class BureauTest {
         makes();
         days();
         daysToTheirEnds();
+        daysByTheirNumber();
         year();
         yearTexts();
         undo();
@@ -201,6 +202,20 @@ public final class BureauTest {
         CHECK.due("15 9 at most", x.person(0, 1), 9);
     }
 
+    private static void daysByTheirNumber() {
+        ReasonsSupplied x = Check.bureau("199---", "15000;16000", "a>5;a<6");
+        x.makes(0, 1);
+        x.gives(0, 0);
+        x.gives(1, 0);
+        Check.rule(x, "n-1");
+        x.days(3);
+        CHECK.due("15 n goes on: -1 0 1 for both", x.person(0, 1) * 10 + x.person(1, 1), 56);
+        x.days(1);
+        CHECK.due("15 n goes on: 2 for both", x.person(0, 1) * 10 + x.person(1, 1), 78);
+        x.days(4);
+        CHECK.due("15 n goes on: 3 4 5 -1 for both", x.person(0, 1) * 10 + x.person(1, 1), 88);
+    }
+
     private static void year() {
         ReasonsSupplied x = bureau();
         CHECK.due("16 an empty one", Check.year(x, ""), 0);
@@ -272,6 +287,21 @@ public final class BureauTest {
         CHECK.due("17 not held", x.held(0, 0), -2);
         CHECK.due("17 SIGNED", x.count(4), 0);
         CHECK.due("17 none", x.undo(), -1);
+        // What a question tried out has nothing to do with it.
+        Check.year(x, "m29g12");
+        x.years(1, 60);
+        x.makes(2, 1);
+        x.undo();
+        CHECK.due("17 STOCK as ahead of makes()", x.count(5), 2 + 1 + 8);
+        x.years(1, 60);
+        x.takesBack(1, 2);
+        x.undo();
+        CHECK.due("17 held as ahead of takesBack()", x.person(1, 5), 4);
+        x.years(1, 60);
+        x.days(1);
+        x.undo();
+        CHECK.due("17 HUMOURS as ahead of days()", x.count(8), 10 + 22);
+        x.undo();
         // STOCK is as ahead of it, whatever a sheet told since.
         x.gives(0, 0);
         x.sheet(2, 3, 50, 0);

@@ -79,6 +79,8 @@ public final class CounterTest {
         CHECK.row(x, "38 those in STOCK", 1, 3);
         CHECK.due("38 not so many", x.same(4), -2);
         CHECK.row(x, "38 the ROW stays", 1, 3);
+        CHECK.due("38 just so many", x.same(3), 0);
+        CHECK.row(x, "38 just so many", 0, 1);
         CHECK.due("38 none", new ReasonsSupplied().same(1), -2);
         ReasonsSupplied y = Check.bureau("11----;11----;11----;11----;11----;11----;11----;11----", "15555", "a>5");
         y.sheet(2, 8, 99, 0);
@@ -114,6 +116,8 @@ public final class CounterTest {
         CHECK.row(x, "40 below 0", 0, 2);
         CHECK.due("40 in 10 DAYS", Check.law(x, "d>8"), 1 - 2);
         CHECK.row(x, "40 in 10 DAYS", 1, 2);
+        CHECK.due("40 not in 11", Check.law(x, "(d>9)*9"), 0 - 2);
+        CHECK.due("40 n goes on", Check.law(x, "n=6"), 1 - 2);
         Check.rule(x, "0");
         CHECK.due("40 above 0", Check.law(x, "9"), 2);
         CHECK.row(x, "40 above 0", 2, 0);
@@ -134,6 +138,7 @@ public final class CounterTest {
         for (int seed = -40; seed <= 40; seed++) {
             ReasonsSupplied x = Check.bureau("199---;12-9--;130-0-", "15555;25555;36666", "a>5;a>8;b>6c<5");
             int n = 1 + Math.abs(seed * 7) % 60;
+            Check.rule(x, seed % 2 == 0 ? "" : "((t>v)-(t<v))*(n<3)");
             x.gives(0, 2);
             int had = x.years(seed, n);
             long humours = x.row(0);
@@ -175,5 +180,15 @@ public final class CounterTest {
         Check.people(x, "15555");
         CHECK.due("41 without GROUNDS", x.years(-7, 60), 0);
         CHECK.row(x, "41 without GROUNDS", 20, 0);
+        ReasonsSupplied y = Check.bureau("19999-", "", "a>5");
+        CHECK.due("41 without PEOPLE", y.years(-7, 60), 0);
+        CHECK.row(y, "41 without PEOPLE", 0, 0);
+        Check.people(y, "15555");
+        long held = 0;
+        for (int seed = 0; seed < 20; seed++) {
+            y.years(seed, 5);
+            held += y.row(1);
+        }
+        CHECK.due("41 one of each is given to now and then", held > 0 && held < 20, true);
     }
 }

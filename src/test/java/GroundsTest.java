@@ -56,6 +56,10 @@ public final class GroundsTest {
         Check.rule(y, "(g=9)*3+(g=1)*2");
         CHECK.due("24 the fewest, not the least GRADE", y.fewest(0, 0, 1), 1);
         CHECK.row(y, "24 the fewest, not the least GRADE", 4, 9);
+        // DAYS of what is given are 0 at first.
+        Check.rule(x, "(d=0)*(g=6)*2");
+        CHECK.due("24 by d", x.fewest(0, 0, 1), 1);
+        CHECK.row(x, "24 by d", 1, 6);
         // All eight.
         ReasonsSupplied z = Check.bureau("119---;119---;119---;119---;119---;119---;119---;119---", "11000", "a>8");
         CHECK.due("24 all eight", z.fewest(0, 0, 1), 8);
@@ -79,6 +83,11 @@ public final class GroundsTest {
         x.gives(0, 2);
         CHECK.due("25 no such", x.serves(0, 1), -2);
         CHECK.row(x, "25 the ROW stays", 2 + 8, 1 + 2 + 8);
+        ReasonsSupplied y = Check.bureau("110---;119---;119---", "15555", "a>5");
+        CHECK.due("25 better than one by which it has none", y.serves(0, 1), 1);
+        CHECK.row(y, "25 better than one by which it has none", 1, 0);
+        CHECK.due("25 the first, if it has none by all", y.serves(0, 0), 0);
+        CHECK.row(y, "25 the first, if it has none by all", 0, 0);
         CHECK.due("25 serves(1, 0)", x.serves(1, 0), -1);
         CHECK.due("25 serves(-1, 0)", x.serves(-1, 0), -1);
         CHECK.due("25 serves(0, 61)", x.serves(0, 61), -1);
@@ -143,6 +152,9 @@ public final class GroundsTest {
         ReasonsSupplied y = new ReasonsSupplied();
         CHECK.due("28 none of none", y.peace(0), 0);
         CHECK.row(y, "28 none of none", 0);
+        Check.grounds(y, "1100--;1199--");
+        CHECK.due("28 one of two", y.peace(8), 1);
+        CHECK.row(y, "28 the first of two", 1);
     }
 
     private static void pulls() {

@@ -30,6 +30,7 @@ public final class LaterTest {
         CHECK.due("18 later(0, 1, 99)", x.later(0, 1, 99), 0);
         CHECK.due("18 later(1, 2, 1)", x.later(1, 2, 1), 5);
         CHECK.row(x, "18 the second one", 4, 5, 5, 7, 4);
+        CHECK.due("18 later(1, 3, 1)", x.later(1, 3, 1), 7);
         CHECK.due("18 later(2, 0, 0)", x.later(2, 0, 0), -1);
         CHECK.due("18 later(-1, 0, 0)", x.later(-1, 0, 0), -1);
         CHECK.due("18 later(0, 4, 0)", x.later(0, 4, 0), -1);

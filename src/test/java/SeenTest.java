@@ -94,6 +94,19 @@ public final class SeenTest {
         x.gives(0, 2);
         x.gives(0, 3);
         x.gives(0, 4);
+        // HUMOURS that come to 0 and to 9 are told apart from those beside them.
+        ReasonsSupplied y = Check.bureau("1090--;1001--;1012--;1023--;1034--", "15555", "a>5");
+        Check.rule(y, "t-v");
+        CHECK.due("33 a 9 0 1 2 3, b 0 1 2 3 4", y.looks(0, 1), 0);
+        CHECK.row(y, "33 a 9 0 1 2 3, b 0 1 2 3 4", 1);
+        ReasonsSupplied z = Check.bureau("1090-0;1091-0;100--0", "15559", "a>5");
+        Check.rule(z, "t-v");
+        CHECK.due("33 a 9 9 0, b 0 1 5, c 5 5 5, d 0 0 0", z.looks(0, 1), 1);
+        CHECK.row(z, "33 a 9 9 0, b 0 1 5, c 5 5 5, d 0 0 0", 1);
+        ReasonsSupplied w = Check.bureau("109-10;109-00;100-00", "15559", "a>5");
+        Check.rule(w, "t-v");
+        CHECK.due("33 a 9 9 0, b 5 5 5, c 1 0 0", w.looks(0, 1), 0);
+        CHECK.row(w, "33 a 9 9 0, b 5 5 5, c 1 0 0", 2);
         // a is pulled to 9 and 0: by either of both it is pulled up once more.
         CHECK.due("33 of those not held", x.looks(0, 1), 0);
         CHECK.row(x, "33 of those not held", 2);
@@ -111,6 +124,9 @@ public final class SeenTest {
         CHECK.row(x, "34 covers(2)", 4 + 8);
         CHECK.due("34 covers(21)", x.covers(21), -1);
         CHECK.due("34 covers(-1)", x.covers(-1), -1);
+        ReasonsSupplied z = Check.bureau("109---;10-9--;1099--", "15555", "a>5;b>5");
+        CHECK.due("34 the fewest, not the least", z.covers(1), 1);
+        CHECK.row(z, "34 the fewest, not the least", 4);
         ReasonsSupplied y = Check.bureau("119---", "15555", "");
         CHECK.due("34 no WANTS", y.covers(1), 0);
         CHECK.row(y, "34 no WANTS", 0);
@@ -131,6 +147,7 @@ public final class SeenTest {
         CHECK.due("35 shares(0)", x.shares(0), 2);
         CHECK.row(x, "35 none is better than one that brings nothing", -1, -1, -1);
         x.gives(0, 0);
+        CHECK.due("35 in 20 days", x.shares(20), 2 + 2 + 1 + 1);
         CHECK.due("35 what it holds", x.shares(1), 2 + 1 + 2);
         CHECK.row(x, "35 what it holds", -1, 0, 1);
         CHECK.due("35 shares(21)", x.shares(21), -1);

@@ -161,6 +161,10 @@ public final class TextsTest {
             CHECK.due("7 rule of " + wrong[i], Check.rule(x, wrong[i]), -1 - at[i]);
             CHECK.due("7 THE TEXT is empty then", x.count(12), 0);
         }
+        for (int sign = 0; sign < 256; sign++) {
+            int known = "+-*/<>=".indexOf(sign) >= 0 ? 2 : 1;
+            CHECK.due("7 rule of v, sign " + sign, Check.rule(x, "v" + (char) sign + (char) 0), -1 - known);
+        }
         String[] good = {"v", "999", "((((v))))", "(v<t)<(t<v)", "v<(t<(g<(e<(d<s))))", "--v---t", "(v)*(t)+((v)+((t)))", "007/-3"};
         for (String text : good) {
             CHECK.due("7 rule of " + text, Check.rule(x, text), 0);
