@@ -27,18 +27,27 @@ public final class ReasonsSupplied {
     private static final int MOST_TURNS = 1000;
 
     private final Signs text = new Signs();
-    private final Numbers told = new Numbers();
     private final LineForm groundForm = new LineForm(GROUND_SIGNS, 2, 55);
     private final LineForm personForm = new LineForm(PERSON_SIGNS, PERSON_SIGNS, 35);
     private final WantForm wantForm = new WantForm();
     private final YearForm yearForm = new YearForm();
     private final Past past = new Past();
-    private final Files files = new Files();
-    private final Standing now = new Standing(files);
-    private final Standing then = new Standing(files);
-    private final Outlook outlook = new Outlook(files, now, then, told);
+    private final Numbers told;
+    private final Files files;
+    private final Standing now;
+    private final Standing then;
+    private final Outlook outlook;
 
     public ReasonsSupplied() {
+        Numbers numbers = new Numbers();
+        Files facts = new Files();
+        Standing present = new Standing(facts);
+        Standing tried = new Standing(facts);
+        outlook = new Outlook(facts, present, tried, numbers);
+        told = numbers;
+        files = facts;
+        now = present;
+        then = tried;
     }
 
     // ---- grounds, people, wants
@@ -1710,7 +1719,7 @@ public final class ReasonsSupplied {
             this.told = told;
         }
 
-        /** WANTS (bits) of one of PEOPLE in n DAYS, with some GROUNDS more. */
+        /** WANTS (bits) of one of PEOPLE in n DAYS, with some GROUNDS more; then is left as all stands in these. */
         private int wantsWith(int p, int more, int n) {
             then.copy(now);
             for (int g = 0; g < files.groundSize(); g++) {
