@@ -97,6 +97,44 @@ final class Check {
         return x;
     }
 
+    /** All that can be asked of how it stands, THE ROW aside. */
+    static String standing(ReasonsSupplied x) {
+        StringBuilder all = new StringBuilder();
+        for (int what = 0; what <= 12; what++) {
+            all.append(what == 11 ? 0 : x.count(what)).append(' ');
+        }
+        for (int g = 0; g < x.count(0); g++) {
+            for (int what = 0; what <= 6; what++) {
+                all.append(x.ground(g, what)).append(' ');
+            }
+        }
+        for (int p = 0; p < x.count(1); p++) {
+            for (int what = 0; what <= 6; what++) {
+                all.append(x.person(p, what)).append(' ');
+            }
+            for (int g = 0; g < x.count(0); g++) {
+                all.append(x.held(p, g)).append(' ');
+            }
+        }
+        return all.toString();
+    }
+
+    static String rowOf(ReasonsSupplied x) {
+        StringBuilder all = new StringBuilder("row");
+        for (int i = 0; i < x.count(11); i++) {
+            all.append(' ').append(x.row(i));
+        }
+        return all.toString();
+    }
+
+    void alike(String call, String got, String want) {
+        asked++;
+        if (!got.equals(want)) {
+            wrong++;
+            System.out.println(about + ": " + call + ": " + got + ", due is " + want);
+        }
+    }
+
     void end() {
         System.out.println(about + ": " + asked + " answers, " + wrong + " wrong");
         if (wrong != 0 || asked == 0) {
