@@ -14,12 +14,13 @@ public final class CounterTest {
     }
 
     private static void counter() {
-        ReasonsSupplied x = new ReasonsSupplied();
         for (int a = 1; a <= 99; a++) {
+            ReasonsSupplied y = new ReasonsSupplied();
             for (int b = 1; b <= 99; b++) {
-                CHECK.due("36 counter(" + a + ", " + b + ")", x.counter(a, b), goldenWins(a, b));
+                CHECK.due("36 counter(" + a + ", " + b + ")", y.counter(a, b), goldenWins(a, b));
             }
         }
+        ReasonsSupplied x = new ReasonsSupplied();
         int[][] mine = {{1, 1, 1}, {99, 99, 1}, {2, 1, 2}, {1, 2, 2}, {4, 2, 2}, {2, 4, 2}, {5, 2, 1}, {99, 33, 3}, {8, 3, 2}};
         for (int[] m : mine) {
             CHECK.due("36 counter(" + m[0] + ", " + m[1] + ")", x.counter(m[0], m[1]), 1);

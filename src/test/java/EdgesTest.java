@@ -11,6 +11,7 @@ public final class EdgesTest {
         signsByBytes();
         numbersThatWrap();
         comparisonsInBrackets();
+        asAllIsAheadOfADay();
         eachHumour();
         eachOfAll();
         sheets();
@@ -136,6 +137,26 @@ public final class EdgesTest {
         CHECK.due("7 the outer one behind + and *", nextBy("1+v*0<t*1-7"), 6);
         CHECK.due("7 = binds as < does", nextBy("1+1=2"), 6);
         CHECK.due("7 four in one another", nextBy("((((4))))"), 9);
+    }
+
+    /** No push of a DAY sees what another one did on it; what is more than 9 or less than 0 is put there behind all of them. */
+    private static void asAllIsAheadOfADay() {
+        ReasonsSupplied x = Check.bureau("1120--;1120--;3120--", "10900", "a>8");
+        Check.rule(x, "t-v");
+        x.gives(0, 0);
+        x.gives(0, 1);
+        CHECK.due("15 both by the a of the day before", x.later(0, 0, 1), 4);
+        CHECK.due("15 both by the b of the day before", x.later(0, 1, 1), 0);
+        CHECK.due("15 the next DAY by that of this one", x.later(0, 0, 2), 0);
+        x.gives(0, 2);
+        Check.rule(x, "(g=1)*7-(g=3)*9");
+        CHECK.due("15 7 and 7 less 9", x.later(0, 0, 1), 5);
+        CHECK.due("15 9, 7 and 7 less 9", x.later(0, 1, 1), 9);
+        Check.rule(x, "(g=3)*4-(g=1)*6");
+        CHECK.due("15 0 less 6 and 6, 4 more", x.later(0, 0, 1), 0);
+        CHECK.due("15 9 less 6 and 6, 4 more", x.later(0, 1, 1), 1);
+        Check.rule(x, "(e=3)*(d=0)*(n=0)*(v=0)");
+        CHECK.due("15 three at once, on the first DAY alone", x.later(0, 0, 9), 3);
     }
 
     /** Each HUMOUR is pulled to 9 and to 0, and ends there. */
@@ -349,7 +370,7 @@ public final class EdgesTest {
         CHECK.due("7 d is 0 anew", x.later(0, 0, 99), 8);
     }
 
-    /** More calls than an object is promised for, as fewer can't sign for so many. */
+    /** These are more calls than an object is promised for: what tells of this bound needs so many. */
     private static void signedUpToItsBound() {
         ReasonsSupplied x = Check.bureau("11----", "15555", "a<1");
         for (int i = 0; i < 9998; i++) {
@@ -627,22 +648,12 @@ public final class EdgesTest {
         CHECK.row(w, "35 of as good ones the least row", 0, 0);
     }
 
-    private static void text(PlainBureau plain, String text) {
-        plain.text = text;
-    }
-
     /** Six PEOPLE, eight GROUNDS, few of each in STOCK: all rows are tried by the plain bureau. */
     private static void sharesAgainstAll() {
         String wants = "a>5;b>5;c>5;d>5;a<3b>2;c<3d>2";
         for (int stock = 0; stock < 3; stock++) {
             ReasonsSupplied x = Check.bureau(EIGHT, SIX, wants);
-            PlainBureau plain = new PlainBureau();
-            text(plain, EIGHT);
-            plain.grounds();
-            text(plain, SIX);
-            plain.people();
-            text(plain, wants);
-            plain.wants();
+            PlainBureau plain = plain(EIGHT, SIX, wants);
             x.sheet(0, 8, stock, 85);
             plain.sheet(0, 8, stock, 85);
             for (int n = 0; n <= 20; n += 5) {
@@ -662,36 +673,64 @@ public final class EdgesTest {
         return all;
     }
 
+    private static PlainBureau plain(String grounds, String people, String wants) {
+        PlainBureau plain = new PlainBureau();
+        plain.text = grounds;
+        plain.grounds();
+        plain.text = people;
+        plain.people();
+        plain.text = wants;
+        plain.wants();
+        return plain;
+    }
+
+    /** A new one with the same GROUNDS; both have the same ROW. */
+    private static ReasonsSupplied withRowOf(PlainBureau plain) {
+        ReasonsSupplied x = Check.bureau(EIGHT, "", "");
+        plain.pulls(3);
+        x.pulls(3);
+        return x;
+    }
+
     /** Where all numbers that a call takes can be tried, and two beyond. */
     private static void allArguments() {
-        ReasonsSupplied x = Check.bureau(EIGHT, SIX, "a>5");
-        PlainBureau plain = new PlainBureau();
-        text(plain, EIGHT);
-        plain.grounds();
+        PlainBureau plain = plain(EIGHT, "", "");
         for (int v = -2; v <= 22; v++) {
+            ReasonsSupplied x = withRowOf(plain);
             for (int c = -2; c <= 7; c++) {
                 alike("39 rests(" + v + ", " + c + ")", x, x.rests(v, c), plain, plain.rests(v, c));
             }
         }
         for (int n = -2; n <= 10; n++) {
+            ReasonsSupplied x = withRowOf(plain);
             for (int k = -2; k <= 10; k++) {
                 alike("37 right(" + n + ", " + k + ")", x, x.right(n, k), plain, plain.right(n, k));
             }
         }
-        for (int a = -2; a <= 101; a++) {
-            for (int b = -2; b <= 101; b++) {
-                alike("36 counter(" + a + ", " + b + ")", x, x.counter(a, b), plain, plain.counter(a, b));
+        for (int n = -2; n <= 101; n++) {
+            for (int i = 0; i < 4; i++) {
+                ReasonsSupplied x = withRowOf(plain);
+                for (int b = i * 26 - 2; b < i * 26 + 24; b++) {
+                    alike("36 counter(" + n + ", " + b + ")", x, x.counter(n, b), plain, plain.counter(n, b));
+                }
             }
         }
+        allOfGrounds(plain);
+    }
+
+    private static void allOfGrounds(PlainBureau plain) {
         for (int k = -2; k <= 11; k++) {
+            ReasonsSupplied x = withRowOf(plain);
             alike("27 quarrels(" + k + ")", x, x.quarrels(k), plain, plain.quarrels(k));
             alike("28 peace(" + k + ")", x, x.peace(k), plain, plain.peace(k));
         }
         for (int some = -2; some <= 257; some++) {
+            ReasonsSupplied x = withRowOf(plain);
             alike("29 pulls(" + some + ")", x, x.pulls(some), plain, plain.pulls(some));
         }
         for (int f = 0; f <= 100; f += 7) {
             for (int step = -20; step <= 20; step += 5) {
+                ReasonsSupplied x = withRowOf(plain);
                 alike("11 sheet of " + f + ", " + step, x, x.sheet(2, 8, f, step), plain, plain.sheet(2, 8, f, step));
                 for (int k = -1; k <= 6; k++) {
                     alike("38 same(" + k + ") of " + f + ", " + step, x, x.same(k), plain, plain.same(k));
@@ -710,13 +749,7 @@ public final class EdgesTest {
         for (int seed : seeds) {
             for (int n : new int[] {1, 2, 59, 60}) {
                 ReasonsSupplied x = Check.bureau(EIGHT, SIX, "a>5;b<3");
-                PlainBureau plain = new PlainBureau();
-                text(plain, EIGHT);
-                plain.grounds();
-                text(plain, SIX);
-                plain.people();
-                text(plain, "a>5;b<3");
-                plain.wants();
+                PlainBureau plain = plain(EIGHT, SIX, "a>5;b<3");
                 alike("41 years(" + seed + ", " + n + ")", x, x.years(seed, n), plain, plain.years(seed, n));
             }
         }

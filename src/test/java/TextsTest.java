@@ -163,7 +163,7 @@ public final class TextsTest {
         }
         for (int sign = 0; sign < 256; sign++) {
             int known = "+-*/<>=".indexOf(sign) >= 0 ? 2 : 1;
-            CHECK.due("7 rule of v, sign " + sign, Check.rule(x, "v" + (char) sign + (char) 0), -1 - known);
+            CHECK.due("7 rule of v, sign " + sign, Check.rule(new ReasonsSupplied(), "v" + (char) sign + (char) 0), -1 - known);
         }
         String[] good = {"v", "999", "((((v))))", "(v<t)<(t<v)", "v<(t<(g<(e<(d<s))))", "--v---t", "(v)*(t)+((v)+((t)))", "007/-3"};
         for (String text : good) {
