@@ -13,8 +13,7 @@ public final class FaceTest {
         Set<String> due = new TreeSet<>();
         for (String line : Files.readAllLines(Path.of("../shared/DOC.md"))) {
             if (line.startsWith("    public ")) {
-                due.add(line.trim().replaceAll("^public |;$| throws \\w+$", "").replaceAll("(int|boolean|long) \\w+([,)])", "$1$2")
-                    .replaceAll(" throws \\w+", ""));
+                due.add(line.trim().replaceAll("^public |;$", "").replaceAll("(int|boolean|long) \\w+([,)])", "$1$2"));
             }
         }
         Set<String> got = new TreeSet<>();
@@ -29,7 +28,7 @@ public final class FaceTest {
         }
         for (Method m : face.getDeclaredMethods()) {
             if (!Modifier.isPrivate(m.getModifiers())) {
-                got.add(m.getReturnType() + " " + m.getName() + "(" + parameters(m.getParameterTypes()) + ")");
+                got.add(m.getReturnType() + " " + m.getName() + "(" + parameters(m.getParameterTypes()) + ")" + exceptions(m));
             }
         }
         Check check = new Check("face");
@@ -39,6 +38,14 @@ public final class FaceTest {
         }
         check.due("a final class", Modifier.toString(face.getModifiers()).equals("public final"), true);
         check.end();
+    }
+
+    private static String exceptions(Method m) {
+        StringBuilder all = new StringBuilder();
+        for (Class<?> type : m.getExceptionTypes()) {
+            all.append(" throws ").append(type.getSimpleName());
+        }
+        return all.toString();
     }
 
     private static String parameters(Class<?>[] types) {
